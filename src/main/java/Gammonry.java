@@ -1,7 +1,7 @@
 import java.util.Arrays;
 import java.util.NoSuchElementException;
 
-/** Games of dice and race: matches, rolls, plays, the cube, judging, a table of players and the record. */
+/** Games of dice and race: matches, rolls, plays, the cube, judging, a table of players and the history. */
 public final class Gammonry {
     private static final char NO_GAME = '-';
     private static final char ON_ROLL = 'd';
@@ -33,7 +33,7 @@ public final class Gammonry {
 
     private final Match match = new Match();
     private final Table table = new Table();
-    private final History record = new History();
+    private final History history = new History();
     private final Totals totals = new Totals();
     private final Roll dice = new Roll();
     private final Equities equities = new Equities();
@@ -77,7 +77,7 @@ public final class Gammonry {
         }
         settled.layOut(layoutOf(match.variant()));
         board.become(settled);
-        record.clear(match.variant(), first);
+        history.clear(match.variant(), first);
         stake = 1;
         holder = NOBODY;
         mover = first;
@@ -320,17 +320,17 @@ public final class Gammonry {
     }
 
     public int played() {
-        return record.turns();
+        return history.turns();
     }
 
     public int playedAt(int turn) throws IndexOutOfBoundsException {
         requireTurn(turn);
-        return record.numberAt(turn);
+        return history.numberAt(turn);
     }
 
     public int rolledAt(int turn) throws IndexOutOfBoundsException {
         requireTurn(turn);
-        return record.diceAt(turn);
+        return history.diceAt(turn);
     }
 
     public long fairness() {
@@ -352,11 +352,11 @@ public final class Gammonry {
     }
 
     public boolean isSound() {
-        int perSide = menIn(layoutOf(record.variant()));
+        int perSide = menIn(layoutOf(history.variant()));
         if (board.total(0) != perSide || board.total(1) != perSide || table.sum() != 0L) {
             return false;
         }
-        record.replay(scratch);
+        history.replay(scratch);
         return scratch.isLike(settled);
     }
 
@@ -397,7 +397,7 @@ public final class Gammonry {
     }
 
     private void requireTurn(int number) {
-        if (number < 0 || number >= record.turns()) {
+        if (number < 0 || number >= history.turns()) {
             throw new IndexOutOfBoundsException("no such turn");
         }
     }
@@ -413,8 +413,7 @@ public final class Gammonry {
         int row = list.rowAt(number);
         int hits = settled.carry(mover, row);
         board.become(settled);
-        dice.takeBack();
-        record.add(dice.asNumber(), number, row);
+        history.add(dice.asNumber(), number, row);
         totals.countPlay(hits, list.errorOf(number));
         if (settled.at(mover, OFF) == settled.total(mover)) {
             endGame(mover, kindAgainst(1 - mover));
@@ -731,19 +730,18 @@ public final class Gammonry {
          * So the rows that never go up are the plays, each once.
          */
         private static void collectAlike(Plays plays, int die, int depth, int highest, int row) {
-            boolean isStuck = true;
             for (int from = highest; from >= 1 && depth < 4; from--) {
                 if (plays.track.canStep(plays.side, from, die)) {
-                    isStuck = false;
                     boolean isHit = plays.track.step(plays.side, from, die);
                     collectAlike(plays, die, depth + 1, from, withCode(row, depth, codeOf(from, die)));
                     plays.track.stepBack(plays.side, from, die, isHit);
                 }
             }
-            if (isStuck && depth > plays.length) {
+            if (depth > plays.length) {
                 plays.clear(depth);
             }
-            if (isStuck && depth == plays.length) {
+            // A row that could go on is shorter by now than those that do.
+            if (depth == plays.length) {
                 plays.addRow(row);
             }
         }

@@ -511,7 +511,7 @@ public final class PromisesTest {
                 move 23 1 = true
                 men 0 25 = 1
                 move 22 1 = false
-                move 22 1 ! UnsupportedOperationException   // four were made
+                move 21 1 ! UnsupportedOperationException   // four were made
                 undo = 4
                 men 1 25 = 1
                 men 0 25 = 0
