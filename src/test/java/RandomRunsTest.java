@@ -3,13 +3,18 @@ import java.util.List;
 
 /** Games by a fixed row of numbers, each at most 512 calls, held against the oracle. */
 public final class RandomRunsTest {
+    /** What later calls answer is free. */
     private static final int CALLS = 512;
+    /** The calls that end a run, and those that a slow turn makes behind its rows. */
+    private static final int LAST_CALLS = 70;
+    private static final int SLOW_CALLS = 80;
     private final Checks checks = new Checks();
     private long seed;
     private Gammonry table;
     private int[][] men;
     private int side;
     private int calls;
+    private int turns;
     private String name;
     private long plays;
     private long hitting;
@@ -52,7 +57,7 @@ public final class RandomRunsTest {
     }
 
     private void rows(List<Oracle.Row> due) {
-        for (int i = 0; i < due.size() && calls < CALLS - 20; i++) {
+        for (int i = 0; i < due.size() && calls < CALLS - LAST_CALLS - SLOW_CALLS; i++) {
             int number = due.size() > 30 ? next(due.size()) : i;
             Oracle.Row row = due.get(number);
             same("moves", table.moves(number), row.moves.size());
@@ -100,6 +105,7 @@ public final class RandomRunsTest {
             return false;
         }
         same("finish", table.finish(), due.indexOf(row));
+        turns++;
         men = settled;
         count(due, row);
         return true;
@@ -130,9 +136,10 @@ public final class RandomRunsTest {
             }
         }
         int number = isWild ? next(due.size()) : table.best();
-        calls++;
         same("play", table.play(number), due.get(number).hits);
-        same("playedAt", table.playedAt(table.played() - 1), number);
+        turns++;
+        same("played", table.played(), turns);
+        same("playedAt", table.playedAt(turns - 1), number);
         count(due, due.get(number));
     }
 
@@ -147,13 +154,14 @@ public final class RandomRunsTest {
         errors = 0;
         boolean isWild = number % 3 == 0;
         int pace = 2 + number % 40;
-        while (calls < CALLS - 60) {
+        while (calls < CALLS - LAST_CALLS) {
             side = next(2);
             table.begin(side);
             calls++;
             men = Oracle.layout(variant);
-            while (calls < CALLS - 60 && Oracle.pips(men, 0) > 0 && Oracle.pips(men, 1) > 0) {
-                boolean isSlow = next(pace) == 0;
+            turns = 0;
+            while (calls < CALLS - LAST_CALLS && Oracle.pips(men, 0) > 0 && Oracle.pips(men, 1) > 0) {
+                boolean isSlow = next(pace) == 0 && calls < CALLS - LAST_CALLS - SLOW_CALLS;
                 turn(isSlow, next(4) == 0, isWild);
             }
             same("isSound", table.isSound(), true);
@@ -166,6 +174,7 @@ public final class RandomRunsTest {
         board();
         same("hitShare", table.hitShare(), (float) hitting / (float) plays);
         same("meanError", table.meanError(), (double) errors / (double) plays);
+        checks.same(name + " has calls that are too many", calls > CALLS, false);
     }
 
     private int kind() {
