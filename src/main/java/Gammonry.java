@@ -18,7 +18,7 @@ public final class Gammonry {
     private static final int GREATEST_CUBE = 64;
     private static final int GREATEST_LENGTH = 25;
 
-    /** The way to lay 4 moves on 15 men: C(18, 4). No roll has more plays than that. */
+    /** The ways to lay 4 moves on 15 men: C(18, 4). No roll has more plays than that. */
     private static final int MOST_PLAYS = 3060;
     /** Two orders of dice, each with one of 15 men for either die. */
     private static final int MOST_PAIRS = 450;
